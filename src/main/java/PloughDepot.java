@@ -1382,7 +1382,11 @@ public final class PloughDepot {
             }
         }
 
-        private void addDrive(int street, boolean clears) {
+        /** 0, or FULL. */
+        private int addDrive(int street, boolean clears) {
+            if (drives.size >= MOST_DRIVES) {
+                return FULL;
+            }
             int to = endA[street] == place ? endB[street] : endA[street];
             int i = drives.add();
             drives.put(i, STREET, street);
@@ -1395,6 +1399,7 @@ public final class PloughDepot {
                 due[street]--;
             }
             place = to;
+            return 0;
         }
 
         // (A)
@@ -1543,55 +1548,48 @@ public final class PloughDepot {
             }
             int why = 0;
             for (int k = 0; k < sides && why == 0; k++) {
-                why = clearNearest();
+                int start = nearestStart();
+                if (start == NONE) {
+                    return NO;
+                }
+                int street = start / 2;
+                why = driveTo(start % 2 == 0 ? endA[street] : endB[street]);
+                if (why == 0) {
+                    why = addDrive(street, true);
+                }
             }
             return why != 0 ? why : driveTo(DEPOT);
         }
 
-        private int clearNearest() {
-            int street = NONE;
+        /** Twice the STREET to be cleared next, 1 more if that begins at b; NONE: no WAY leads to one. */
+        private int nearestStart() {
             int start = NONE;
             int length = FAR;
             for (int s = 0; s < streets; s++) {
                 if (due[s] > 0 && ways.between(place, endA[s]) < length) {
-                    street = s;
-                    start = endA[s];
-                    length = ways.between(place, start);
+                    start = 2 * s;
+                    length = ways.between(place, endA[s]);
                 }
                 boolean both = books.streets.get(s, ONE_WAY) == 0;
                 if (due[s] > 0 && both && ways.between(place, endB[s]) < length) {
-                    street = s;
-                    start = endB[s];
-                    length = ways.between(place, start);
+                    start = 2 * s + 1;
+                    length = ways.between(place, endB[s]);
                 }
             }
-            if (street == NONE) {
-                return NO;
-            }
-            int why = driveTo(start);
-            return why != 0 ? why : drive(street, true);
+            return start;
         }
 
+        /** 0, NO or FULL. */
         private int driveTo(int goal) {
             if (ways.between(place, goal) >= FAR) {
                 return NO;
             }
             int why = 0;
             for (int k = 0; k < MOST_CROSSINGS && place != goal && why == 0; k++) {
-                why = drive(ways.nextStreet(place, goal), false);
+                int street = ways.nextStreet(place, goal);
+                why = street == NONE ? NO : addDrive(street, false);
             }
             return why;
-        }
-
-        private int drive(int street, boolean clears) {
-            if (drives.size >= MOST_DRIVES) {
-                return FULL;
-            }
-            if (street < 0 || street >= streets) {
-                return NO;
-            }
-            addDrive(street, clears);
-            return 0;
         }
     }
 
