@@ -125,6 +125,7 @@ public final class PromisesTest {
     private static void newObject() {
         promise(1);
         PloughDepot x = new PloughDepot();
+        due(0, x.status());
         for (int what = 0; what < 4; what++) {
             due(0, x.count(what));
         }
@@ -415,6 +416,8 @@ public final class PromisesTest {
         due(BAD, x.copy(0, 0, 2, 0, 1));
         due(BAD, x.copy(2, 0, 0, 0, 1));
         due(BAD, x.copy(0, 0, 3, 0, 1));
+        due(BAD, x.copy(2, 0, 3, 0, 1));
+        due(BAD, x.copy(3, 0, 2, 0, 1));
         due(BAD, x.copy(-1, 0, 0, 0, 1));
         due(INDEX, x.copy(0, -1, 1, 0, 1));
         due(INDEX, x.copy(0, 0, 1, -1, 1));
@@ -559,6 +562,19 @@ public final class PromisesTest {
         x.reading(1, 0, 4);
         x.snow(0);
         due((int) ((3 / 10f * 2 + 4 / 10f * 2) / 4f * 10f), x.told(0, 0));
+        // NEAR by a street to the depot, whichever end of either it is
+        x = town(4);
+        x.street(0, 1, 5, false);
+        x.street(1, 0, 5, false);
+        x.street(2, 0, 5, false);
+        x.street(3, 1, 5, false);
+        x.gauge(2, true);
+        x.row(0, 1);
+        x.reading(0, 0, 60);
+        due(3, x.snow(0));
+        due(60, x.told(0, 0));
+        due(60, x.told(1, 0));
+        due(0, x.told(3, 0));
         // a street between a gauge's crossing and an end by another street side by side is NEAR by 2 only
         x = town(3);
         x.street(0, 1, 5, false);
@@ -662,6 +678,8 @@ public final class PromisesTest {
         x.out(5);
         due(NULL, x.pair(5, 1, 5));
         due(6, x.count(3));
+        due(6, x.pair(1, 2, 0));
+        due(0, x.part(6, 5));
 
         promise(22);
         x = line(2, 100);
@@ -985,6 +1003,15 @@ public final class PromisesTest {
         x.sides(0, 0);
         due(4, x.round());
         dueRound("+1+2-2-1", x);
+        // of streets as near the least one is taken
+        x = town(3);
+        x.street(1, 0, 5, true);
+        x.street(0, 1, 5, false);
+        x.street(0, 1, 5, false);
+        x.street(2, 0, 5, true);
+        x.shut(3, true);
+        due(4, x.round());
+        dueRound("+1+0+2-0", x);
         // of both ends as near a is taken ahead of b
         x = town(4);
         x.street(0, 2, 5, false);
@@ -1027,6 +1054,30 @@ public final class PromisesTest {
         due(2000, x.length(0));
         x.sides(19, 1);
         due(2000, x.round());
+        // each side takes 23 drives here: 86 of them are 1978, 87 are one too many
+        x = town(23);
+        for (int c = 1; c < 23; c++) {
+            x.street(c, (c + 1) % 23, 1, true);
+            x.sides(c - 1, 0);
+        }
+        for (int k = 0; k < 44; k++) {
+            x.street(0, 1, 1, true);
+            x.sides(22 + k, k == 43 ? 0 : 2);
+        }
+        due(1978, x.round());
+        x.sides(65, 1);
+        due(FULL, x.round());
+        due(1978, x.length(0));
+        x = town(20);
+        for (int c = 1; c < 20; c++) {
+            x.street(c, (c + 1) % 20, 1, true);
+            x.sides(c - 1, 0);
+        }
+        for (int k = 0; k < 50; k++) {
+            x.street(0, 1, 1, true);
+            x.sides(19 + k, 2);
+        }
+        due(2000, x.round());
         promise(35);
         // in each of 100 turns streets 0 to 9, and 10 to 18, and one of two digits that is cleared
         due(100 * (10 * 2 + 9 * 3 + 3), x.text());
@@ -1058,6 +1109,17 @@ public final class PromisesTest {
         due(0, x.length(4));
         due(2, x.partner(1));
         due(4, x.partner(3));
+        // 14 are odd: the same PAIRS as by an EXCHANGE, but none is made
+        x.shut(17, true);
+        x.sides(14, 0);
+        x.sides(15, 0);
+        x.round();
+        due(0, x.length(4));
+        due(7, x.length(5));
+        due(3, x.partner(1));
+        due(4, x.partner(2));
+        x.sides(14, 1);
+        x.sides(15, 1);
         // 1 - 4 instead of both: (1, 3), (2, 4) are no less, but (1, 4), (2, 3)
         x.shut(16, true);
         x.shut(17, true);
@@ -1323,6 +1385,10 @@ public final class PromisesTest {
         dueText("+0+1+2+3A+4+5+6+7+8+9+10C+11D", x);
         x.out(2);
         dueText("+0+1+2+3A+4+5+6+7+8+9+10+11D", x);
+        // who has a PART of no DRIVES has no last one, though it stands behind street 3
+        x.out(0);
+        due(4, x.part(1, 0));
+        dueText("+0+1+2+3+4+5+6+7+8+9+10+11D", x);
         // street 100 and above have three digits; a line is empty on its way back
         x = town(2);
         for (int s = 0; s < 102; s++) {
