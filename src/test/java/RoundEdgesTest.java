@@ -30,6 +30,7 @@ public final class RoundEdgesTest extends Edges {
         roundCall();
         atCall();
         lengthCall();
+        roundsOneBehindTheOther();
         partnerCall();
         end();
     }
@@ -364,6 +365,11 @@ public final class RoundEdgesTest extends Edges {
         // b that is nearer is ahead of a
         x = rounded(crossings(3), lane(0, 1, 4), lane(0, 2, 5), road(2, 1, 9), oneWay(1, 2, 99, 0));
         dueRound("-0+2-1", x);
+        // a of STREET 2 is 5 away, its b 3, and STREET 4 behind it 4; then as far as b, or nearer
+        Town three = and(crossings(4), lane(0, 1, 5), lane(0, 2, 3), road(1, 2, 9));
+        dueRound("-1+2-0-3+4", rounded(three, lane(0, 3, 4), oneWay(3, 0, 4, 1)));
+        dueRound("-1+2-0-3+4", rounded(three, lane(0, 3, 3), oneWay(3, 0, 4, 1)));
+        dueRound("-3+4-1+2-0", rounded(three, lane(0, 3, 2), oneWay(3, 0, 4, 1)));
     }
 
     private static void noWayByB() {
@@ -597,6 +603,59 @@ public final class RoundEdgesTest extends Edges {
         says("Promise 29", "BAD.");
         onlyFrom(BUSY, 0, 6, PloughDepot::length);
         onlyFrom(EMPTY, 0, 6, PloughDepot::length);
+    }
+
+    private static void dueLengths(PloughDepot x, int... want) {
+        for (int what = 0; what < 7; what++) {
+            due(want[what], x.length(what));
+        }
+    }
+
+    private static void roundsOneBehindTheOther() {
+        says("Promise 29", "Of THE ROUND");
+        // nothing is left of those ahead of it
+        PloughDepot x = rounded(line(3, 10));
+        dueLengths(x, 4, 40, 2, 0, 0, 1, 1);
+        due(4, x.round());
+        dueLengths(x, 4, 40, 2, 0, 0, 1, 1);
+        x.sides(0, 0);
+        due(4, x.round());
+        dueLengths(x, 4, 40, 1, 1, 0, 1, 1);
+        due(2, x.street(2, 0, 7, true));
+        due(3, x.round());
+        dueLengths(x, 3, 27, 2, 0, 0, 0, 2);
+        x.shut(2, true);
+        x.sides(1, 2);
+        due(4, x.round());
+        dueLengths(x, 4, 40, 2, 1, 0, 0, 1);
+        x.sides(1, 0);
+        due(0, x.round());
+        dueLengths(x, 0, 0, 0, 0, 0, 0, 1);
+        // EXCHANGES, then as many, then 14 ODD CROSSINGS and none
+        x = rounded(STAR, lane(1, 3, 1));
+        dueLengths(x, 31, 1600 + 1 + 200 * 7, 16, 0, 1, 8, 1);
+        due(31, x.round());
+        dueLengths(x, 31, 1600 + 1 + 200 * 7, 16, 0, 1, 8, 1);
+        x.shut(0, true);
+        x.shut(1, true);
+        due(28, x.round());
+        dueLengths(x, 28, 2800, 14, 0, 0, 7, 1);
+
+        says("Terms 4", "from THE DEPOT on");
+        // behind one that was refused on its way, too
+        Town ending = and(crossings(2), oneWay(0, 1, 5, 1));
+        x = made(ending);
+        due(NO, x.round());
+        x.sides(x.street(1, 0, 6, true), 0);
+        due(2, x.round());
+        dueRound("+0-1", x);
+        dueLengths(x, 2, 11, 1, 0, 0, 0, 2);
+        x = made(ending);
+        due(NO, x.round());
+        x.oneWay(0, false);
+        due(2, x.round());
+        dueRound("+0-0", x);
+        dueLengths(x, 2, 10, 1, 0, 0, 1, 1);
     }
 
     private static void partnerCall() {
