@@ -88,6 +88,8 @@ public final class LongTextEdgesTest extends Edges {
         Town letters = parts(100, 100, 100, 100, 100, 100, 100, 100, 100, 100, 100, 900);
         dueEnd(longRound(letters), 7999, "-149-149");
         dueEnd(longRound(letters, 149, 1, 1), 7999, "-149-149");
+        // 1997 DRIVES and 10 letters are 7998 signs: the second DRIVE behind them would fit, but not the first
+        dueEnd(longRound(parts(100, 100, 100, 100, 100, 100, 100, 100, 100, 100, 1000), 149, 1, 1), 7998, "-149-149");
         // 2 signs each: two of four fit; four of five, but not the last with its letter; all six
         dueEnd(longRound(letters, 1, 1, 1, 1), 7999, "-149-1-1");
         dueEnd(longRound(letters, 1, 1, 1, 1, 1), 7999, "-1-1-1-1");
